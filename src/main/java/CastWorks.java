@@ -8,6 +8,8 @@ public final class CastWorks {
     public static final int NONE = -1;
 
     private static final int IMPOSSIBLE = -2;
+    /** Above all sums of pieces, and of weights times days late, that can be: these stay below 601,000. */
+    private static final int FAR = 1_000_000;
 
     private final Tape tape = new Tape();
     private final TextReader reader = new TextReader(tape);
@@ -255,9 +257,9 @@ public final class CastWorks {
         private void readStatement(Cells target) {
             int start = place;
             if (takeWord("box")) {
-                readBlock(target, true);
+                readBlock(target, 1);
             } else if (takeWord("hole")) {
-                readBlock(target, false);
+                readBlock(target, 0);
             } else if (takeWord("mirror")) {
                 readMirror(target);
             } else if (takeWord("turn")) {
@@ -267,7 +269,7 @@ public final class CastWorks {
             }
         }
 
-        private void readBlock(Cells target, boolean value) {
+        private void readBlock(Cells target, int value) {
             for (int i = 0; i < NUMBERS && kind == 0; i++) {
                 readNumber(i);
             }
@@ -379,8 +381,9 @@ public final class CastWorks {
         static final int ALL = SIDE * PLANE;
         private static final int MOST = 8;
 
-        private final boolean[] solidCells = new boolean[ALL];
-        private final boolean[] layer = new boolean[MOST * MOST];
+        /** 1 for a solid cell, 0 for an empty one. */
+        private final int[] solidCells = new int[ALL];
+        private final int[] layer = new int[MOST * MOST];
         private int wide;
         private int high;
         private int deep;
@@ -397,7 +400,7 @@ public final class CastWorks {
             wide = newWide;
             high = newHigh;
             deep = newDeep;
-            Arrays.fill(solidCells, false);
+            Arrays.fill(solidCells, 0);
         }
 
         void copyFrom(Cells other) {
@@ -420,19 +423,19 @@ public final class CastWorks {
         }
 
         boolean isSolid(int cell) {
-            return cell >= 0 && cell < ALL && solidCells[cell];
+            return cell >= 0 && cell < ALL && solidCells[cell] == 1;
         }
 
         int countSolid() {
             int count = 0;
             for (int cell = 0; cell < ALL; cell++) {
-                count += solidCells[cell] ? 1 : 0;
+                count += solidCells[cell];
             }
             return count;
         }
 
         /** The numbers are x, y, z and the three lengths. */
-        void fillBlock(int[] numbers, boolean value) {
+        void fillBlock(int[] numbers, int value) {
             if (numbers.length < 6) {
                 return;
             }
@@ -455,7 +458,7 @@ public final class CastWorks {
                         if (isSolid(indexOf(x, y, z))) {
                             put(axis == 0 ? wide - 1 - x : x,
                                     axis == 1 ? high - 1 - y : y,
-                                    axis == 2 ? deep - 1 - z : z, true);
+                                    axis == 2 ? deep - 1 - z : z, 1);
                         }
                     }
                 }
@@ -480,12 +483,12 @@ public final class CastWorks {
         private void keepLayer(int z) {
             for (int y = 0; y < high && y < MOST; y++) {
                 for (int x = 0; x < wide && x < MOST; x++) {
-                    layer[y * MOST + x] = isSolid(indexOf(x, y, z));
+                    layer[y * MOST + x] = isSolid(indexOf(x, y, z)) ? 1 : 0;
                 }
             }
         }
 
-        private void put(int x, int y, int z, boolean value) {
+        private void put(int x, int y, int z, int value) {
             if (areWithin(x, y, z, 0)) {
                 solidCells[indexOf(x, y, z)] = value;
             }
@@ -675,7 +678,6 @@ public final class CastWorks {
     /** Finds the ways, and their order, in which the mould is drawn off with the fewest ways, then pieces. */
     private static final class Drawing {
         private static final int SETS = 1 << Mould.WAYS;
-        private static final int FAR = 1_000_000;
 
         private final Mould mould;
         private final Pieces pieces;
@@ -685,7 +687,8 @@ public final class CastWorks {
         /** By the set of ways that are drawn already: the fewest pieces that are still to come. */
         private final int[] piecesToCome = new int[SETS];
         private final int[] wayToCome = new int[SETS];
-        private final boolean[] isFreedom = new boolean[SETS];
+        /** How many cells are free by just these ways. */
+        private final int[] cellsFreeBy = new int[SETS];
 
         Drawing(Mould mould, Pieces pieces) {
             this.mould = mould;
@@ -699,7 +702,11 @@ public final class CastWorks {
         }
 
         boolean find() {
-            forget();
+            if (wayCount > 0) {
+                // The form is the one that this drawing was found for, so nothing but its pours can differ.
+                pieces.takeBackPours();
+                return true;
+            }
             noteFreedoms();
             int count = fewestWays();
             if (count == NONE) {
@@ -721,15 +728,15 @@ public final class CastWorks {
 
         /** Few sets of ways by which cells are free occur, so a cover is tested on these and not on all cells. */
         private void noteFreedoms() {
-            Arrays.fill(isFreedom, false);
+            Arrays.fill(cellsFreeBy, 0);
             for (int i = 0; i < mould.size(); i++) {
-                isFreedom[mould.freeWays(mould.member(i)) & SETS - 1] = true;
+                cellsFreeBy[mould.freeWays(mould.member(i)) & SETS - 1]++;
             }
         }
 
         private boolean frees(int set) {
             for (int freedom = 0; freedom < SETS; freedom++) {
-                if (isFreedom[freedom] && (freedom & set) == 0) {
+                if (cellsFreeBy[freedom] > 0 && (freedom & set) == 0) {
                     return false;
                 }
             }
@@ -828,6 +835,10 @@ public final class CastWorks {
                     touching[p] += mould.touchesSolid(cell) ? 1 : 0;
                 }
             }
+        }
+
+        void takeBackPours() {
+            Arrays.fill(poured, 0);
         }
 
         int tell(int p, int what) {
@@ -1003,7 +1014,7 @@ public final class CastWorks {
 
         /** The lesser number stays where several do as well. */
         private void weighSet(int left, int day) {
-            leastSum[left] = Integer.MAX_VALUE;
+            leastSum[left] = FAR;
             for (int o = 0; o < MOST; o++) {
                 int rest = left & ~(1 << o);
                 if (rest != left) {

@@ -97,10 +97,11 @@ public final class LanguageTests {
         }
         Matcher library = Pattern.compile("\\b(Arrays|System|Math|Integer|Long)\\.(\\w+)").matcher(code);
         Set<String> allowed = Set.of("Arrays.fill", "System.arraycopy", "Math.min", "Math.max", "Math.abs",
-                "Integer.bitCount", "Integer.MAX_VALUE");
+                "Integer.bitCount");
         while (library.find()) {
             must("rule 4: " + library.group(), allowed.contains(library.group()));
         }
+        must("rule 4: fill is for numbers alone", !code.contains("boolean[]"));
         Matcher made = Pattern.compile("\\bnew\\b").matcher(code);
         int inMethods = 0;
         while (made.find()) {

@@ -181,6 +181,8 @@ public final class PromiseTests {
 
         faultDue(5, "bo", 2, 2, 1, 0);
         faultDue(5, " boxes 0 0 0 1 1 1;", 2, 2, 1, 1);
+        faultDue(5, "boxa 0 0 0 1 1 1;", 2, 2, 1, 0);
+        faultDue(5, "boxz 0 0 0 1 1 1;", 2, 2, 1, 0);
         faultDue(5, "x;", 2, 2, 1, 0);
         faultDue(5, "0;", 2, 2, 1, 0);
         faultDue(5, ";", 2, 2, 1, 0);
@@ -647,6 +649,11 @@ public final class PromiseTests {
         x.cast(5, 999, 999);
         x.cast(3, 989, 949);
         due(25, "floors: 989.01, 949.05", x.mother(3), 5);
+        x.cast(3, 989, 899);
+        due(25, "50 is not above BOUND at first", x.mother(3), 5);
+        x.cast(3, 988, 899);
+        due(25, "51 is above BOUND at first", x.mother(3), -2);
+        x.cast(3, 989, 949);
         x.copies(990, 950, 0);
         due(25, "a quarrel of 0 within 0", x.mother(3), 5);
         x.cast(3, 990, 949);

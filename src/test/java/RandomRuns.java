@@ -73,6 +73,10 @@ public final class RandomRuns {
             return random.nextInt(most + 1);
         }
 
+        private int side() {
+            return Math.max(1 + upTo(greatest - 1), 1 + upTo(greatest - 1));
+        }
+
         /** Mostly within, now and then at or beyond the edges. */
         private int around(int from, int to) {
             switch (random.nextInt(24)) {
@@ -116,7 +120,7 @@ public final class RandomRuns {
                 default:
                     StringBuilder text = new StringBuilder(random.nextInt(5) < 3 ? "box" : "hole");
                     for (int i = 0; i < 3; i++) {
-                        text.append(gap).append(upTo(7));
+                        text.append(gap).append(random.nextInt(20) == 0 ? upTo(9) : upTo(greatest - 1));
                     }
                     for (int i = 0; i < 3; i++) {
                         text.append(' ').append(random.nextInt(60) == 0 ? 0 : 1 + upTo(random.nextBoolean() ? 8 : 2));
@@ -125,14 +129,27 @@ public final class RandomRuns {
             }
         }
 
-        private String text(int wide, int high) {
+        /** A hole in one of the six sides, which needs a way of its own if it is narrow. */
+        private String pit(int wide, int high, int deep) {
+            int[] from = {random.nextInt(wide), random.nextInt(high), random.nextInt(deep)};
+            int[] sides = {wide, high, deep};
+            int axis = random.nextInt(3);
+            int[] lengths = {1, 1, 1};
+            lengths[axis] = 1 + upTo(Math.min(1, sides[axis] / 2));
+            from[axis] = random.nextBoolean() ? 0 : Math.max(0, sides[axis] - lengths[axis]);
+            return "hole " + from[0] + " " + from[1] + " " + from[2]
+                    + " " + lengths[0] + " " + lengths[1] + " " + lengths[2] + ";";
+        }
+
+        private String text(int wide, int high, int deep) {
             StringBuilder text = new StringBuilder();
-            int statements = upTo(10);
-            if (random.nextInt(3) == 0) {
+            boolean pitted = random.nextBoolean();
+            int statements = upTo(pitted ? 19 : 10);
+            if (pitted || random.nextBoolean()) {
                 text.append("box 0 0 0 9 9 9;");
             }
             for (int i = 0; i < statements; i++) {
-                text.append(statement(wide, high));
+                text.append(pitted ? pit(wide, high, deep) : statement(wide, high));
             }
             if (random.nextInt(4) == 0 && text.length() > 0) {
                 spoil(text);
@@ -161,10 +178,10 @@ public final class RandomRuns {
         }
 
         private void newForm() {
-            int wide = 1 + upTo(greatest - 1);
-            int high = random.nextInt(3) == 0 ? wide : 1 + upTo(greatest - 1);
-            int deep = 1 + upTo(greatest - 1);
-            String text = text(wide, high);
+            int wide = side();
+            int high = random.nextInt(3) == 0 ? wide : side();
+            int deep = side();
+            String text = text(wide, high, deep);
             end(0);
             for (int i = 0; i < text.length(); i += 20) {
                 feed(four(text, i), four(text, i + 4), four(text, i + 8), four(text, i + 12), four(text, i + 16));
