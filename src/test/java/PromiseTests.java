@@ -1,65 +1,26 @@
-/** Each promise of the document by hand-made runs: ordinary inputs, the named edges, wrong inputs. */
-public final class PromiseTests {
-    private static final int NONE = CastWorks.NONE;
-    private static final int LEAST = Integer.MIN_VALUE;
-    private static final int MOST = Integer.MAX_VALUE;
-
-    private static int wrong = 0;
-    private static int checks = 0;
+/** Each promise of the document by hand-made runs with ordinary and wrong inputs; the edges have tests of their own. */
+public final class PromiseTests extends Checks {
+    private PromiseTests() {
+    }
 
     private static void due(int promise, String call, long got, long want) {
-        checks++;
-        if (got != want) {
-            wrong++;
-            System.out.println("promise " + promise + ": " + call + " answered " + got + ", due is " + want);
-        }
+        begin("promise " + promise);
+        due(call, got, want);
     }
 
     private static void due(int promise, String call, boolean got, boolean want) {
-        due(promise, call, got ? 1 : 0, want ? 1 : 0);
-    }
-
-    private static int four(String text, int from) {
-        int number = 0;
-        for (int i = from; i < from + 4; i++) {
-            number = number << 8 | (i < text.length() ? text.charAt(i) : ' ') & 255;
-        }
-        return number;
-    }
-
-    /** Lays a text on an empty tape. */
-    private static void lay(CastWorks x, String text) {
-        x.end(0);
-        for (int i = 0; i < text.length(); i += 20) {
-            x.feed(four(text, i), four(text, i + 4), four(text, i + 8), four(text, i + 12), four(text, i + 16));
-        }
-        x.end(text.length());
-    }
-
-    private static int make(CastWorks x, String text, int wide, int high, int deep) {
-        lay(x, text);
-        return x.form(wide, high, deep);
-    }
-
-    private static CastWorks formed(String text, int wide, int high, int deep) {
-        CastWorks x = new CastWorks();
-        make(x, text, wide, high, deep);
-        return x;
+        begin("promise " + promise);
+        due(call, got, want);
     }
 
     private static void faultDue(int promise, String text, int wide, int high, int kind, int place) {
-        CastWorks x = new CastWorks();
-        int answer = make(x, text, wide, high, 2);
-        due(promise, "form of '" + text + "'", answer, NONE);
-        due(promise, "fault(0) of '" + text + "'", x.fault(0), kind);
-        due(promise, "fault(1) of '" + text + "'", x.fault(1), place);
+        begin("promise " + promise);
+        faultDue(text, wide, high, kind, place);
     }
 
     private static void soundDue(int promise, String text, int wide, int high, int deep, int solid) {
-        CastWorks x = new CastWorks();
-        due(promise, "form of '" + text + "'", make(x, text, wide, high, deep), solid);
-        due(promise, "fault(0) of '" + text + "'", x.fault(0), 0);
-        due(promise, "fault(1) of '" + text + "'", x.fault(1), NONE);
+        begin("promise " + promise);
+        soundDue(text, wide, high, deep, solid);
     }
 
     private static void newObject() {
@@ -741,9 +702,6 @@ public final class PromiseTests {
         mother();
         steps();
         told();
-        System.out.println(checks + " answers by promise, " + wrong + " of them wrong");
-        if (wrong != 0) {
-            System.exit(1);
-        }
+        finish("27 promises");
     }
 }
