@@ -30,7 +30,7 @@ public final class CastEdges extends Checks {
         due("the greatest", x.cast(1, 100000, 5), true);
         due("beyond", x.cast(0, 100001, 5), false);
         due("below", x.cast(0, -1, 5), false);
-        for (int far : new int[] {LEAST, LEAST + 1, -65536, 1 << 30, MOST - 1, MOST}) {
+        for (int far : FARTHEST) {
             due("cast of " + far, x.cast(0, far, 5), false);
         }
         x.cast(2, 1, 4);
@@ -83,8 +83,8 @@ public final class CastEdges extends Checks {
         x.cast(0, 1000, 1000);
         x.cast(1, 990, 950);
         x.copies(990, 950, 0);
-        int[][] cannotBe = {{0, 100001, 0}, {0, -1, 1000}, {0, 1000, 1001}, {0, 999, -1}, {1, 1, 1001}, {1, 100001, 950},
-            {12, 990, 950}, {-1, 1, 1}};
+        int[][] cannotBe = {{0, 100001, 0}, {0, -1, 1000}, {0, 1000, 1001}, {0, 999, -1}, {1, 1, 1001},
+            {1, 100001, 950}, {12, 990, 950}, {-1, 1, 1}};
         for (int[] one : cannotBe) {
             due("cast", x.cast(one[0], one[1], one[2]), false);
             due("its mother has stayed", x.mother(1), 0);
@@ -197,8 +197,8 @@ public final class CastEdges extends Checks {
     }
 
     static void promise25MotherIsGreaterOrAsGreatWithMoreDetail() {
-        int[][] sizeDetailMother = {{501, 500, 0}, {501, 0, 0}, {501, 1000, 0}, {500, 501, 0}, {500, 500, -2}, {500, 499, -2},
-            {500, 1000, 0}, {499, 1000, -2}, {499, 500, -2}, {499, 501, -2}};
+        int[][] sizeDetailMother = {{501, 500, 0}, {501, 0, 0}, {501, 1000, 0}, {500, 501, 0}, {500, 500, -2},
+            {500, 499, -2}, {500, 1000, 0}, {499, 1000, -2}, {499, 500, -2}, {499, 501, -2}};
         for (int[] one : sizeDetailMother) {
             CastWorks x = new CastWorks();
             x.copies(1000, 1000, 100000);
@@ -211,24 +211,20 @@ public final class CastEdges extends Checks {
     static void promise25MotherWithinTheBound() {
         for (int bound : new int[] {0, 1, 49, 50, 51, 1000}) {
             CastWorks x = new CastWorks();
-            x.copies(1000, 1000, bound);
+            x.copies(990, 950, bound);
             x.cast(0, 10000, 1000);
-            x.cast(1, bound == 0 ? 10000 : 10000 - bound, bound == 0 ? 999 : 1000);
-            due("a QUARREL at BOUND " + bound, x.mother(1), bound == 0 ? -2 : 0);
-            x.cast(1, 10000 - bound, 999);
-            due("a QUARREL of 1 above BOUND " + bound, x.mother(1), -2);
-            x.cast(1, 10000 - bound + 1, 1000);
-            due("a QUARREL of 1 below BOUND " + bound, x.mother(1), bound < 2 ? -2 : 0);
+            x.cast(1, 9900 - bound, 950);
+            due("a QUARREL of BOUND " + bound, x.mother(1), 0);
+            x.cast(1, 9900 - bound - 1, 950);
+            due("a QUARREL of SIZE that is 1 above BOUND " + bound, x.mother(1), -2);
+            x.cast(1, 9900 - bound, 949);
+            due("a QUARREL with DETAIL that is 1 above BOUND " + bound, x.mother(1), -2);
         }
-        CastWorks x = new CastWorks();
-        x.copies(990, 950, 0);
-        x.cast(0, 10000, 1000);
-        x.cast(1, 9900, 950);
-        due("a QUARREL of 0 with BOUND 0", x.mother(1), 0);
     }
 
     static void promise25MotherQuarrelsWithoutSigns() {
-        int[][] sizeAndDetail = {{9900, 950}, {9925, 975}, {9875, 925}, {9925, 925}, {9875, 975}, {9950, 950}, {9900, 1000}, {9850, 950}};
+        int[][] sizeAndDetail = {{9900, 950}, {9925, 975}, {9875, 925}, {9925, 925}, {9875, 975}, {9950, 950},
+            {9900, 1000}, {9850, 950}};
         for (int[] one : sizeAndDetail) {
             CastWorks x = new CastWorks();
             x.cast(0, 10000, 1000);
@@ -344,5 +340,18 @@ public final class CastEdges extends Checks {
         x.copies(1000, 1000, 89999 + 999);
         due("none has one", x.told(0), 12);
         due("QUARRELS above BOUND are not told", x.told(1), 0);
+    }
+
+    static void promise27ToldOfTheFirstAndTheLastCast() {
+        for (int c = 0; c < 12; c++) {
+            CastWorks x = new CastWorks();
+            int mother = c == 5 ? 6 : 5;
+            x.cast(c, 990, 949);
+            due("CAST " + c + " has none", x.told(0), 1);
+            due("no QUARREL", x.told(1), 0);
+            x.cast(mother, 1000, 1000);
+            due("CAST " + mother + " has none", x.told(0), 1);
+            due("the QUARREL of CAST " + c, x.told(1), 1);
+        }
     }
 }

@@ -572,17 +572,16 @@ public final class TextEdges extends Checks {
     }
 
     static void promise05FaultOfLengthsThatAre0WhateverIsBehind() {
-        int[] places = {10, 12, 14};
-        String text = "box 0 0 0 1 1 1;";
-        for (int place : places) {
-            String ahead = text.substring(0, place);
-            for (String behind : new String[] {"", ";", " ", "0", "9", "x", "#", " bo", "\u00ff", text.substring(place + 1)}) {
+        for (int place : new int[] {10, 12, 14}) {
+            String ahead = CUBE.substring(0, place);
+            String rest = CUBE.substring(place + 1);
+            for (String behind : new String[] {"", ";", " ", "0", "9", "x", "#", " bo", "\u00ff", rest}) {
                 faultDue(ahead + "0" + behind, 2, 2, 2, place);
                 faultDue("hole" + ahead.substring(3) + "0" + behind, 2, 2, 2, place + 1);
             }
-            soundDue(ahead + "1" + text.substring(place + 1), 1, 1, 1, 1);
+            soundDue(ahead + "1" + rest, 1, 1, 1, 1);
+            soundDue(ahead + "9" + rest, 1, 1, 1, 1);
         }
-        soundDue("box 0 0 0 1 1 1;", 1, 1, 1, 1);
         faultDue("box 0 0 0 0 0 0;", 2, 2, 2, 10);
     }
 
