@@ -333,6 +333,16 @@ public final class MouldEdges extends Checks {
         }
     }
 
+    static void promise11PieceAtOfCellsThatMeetOnlyAtAnEdge() {
+        // Whatever WAY is first, the CELLS behind the two cubes meet at an edge alone.
+        CastWorks x = formed("box 0 0 0 1 1 1;box 1 1 1 1 1 1;", 2, 2, 2);
+        due("draw", x.draw(), 3);
+        due("its WAYS", x.way(0) * 10 + x.way(1), 1);
+        due("behind the first cube", x.pieceAt(-1, 0, 0), 1);
+        due("behind the second cube", x.pieceAt(0, 1, 1), 2);
+        due("one further, which hangs together by a side", x.pieceAt(-1, 1, 1), 2);
+    }
+
     // ---- promise 12: piece
 
     static void promise12PieceFromTheFirstToTheLast() {
@@ -379,6 +389,15 @@ public final class MouldEdges extends Checks {
         due("CELLS", x.piece(0, 1) + x.piece(1, 1), 125 - 25);
         due("those with a solid one at a side", x.piece(0, 2) + x.piece(1, 2), 6 * 9 - 1 + 2);
         due("none of the edges", drawn(CUBE, 1, 1, 1).piece(0, 2), 5);
+    }
+
+    static void promise12PiecesWayByWayAsTheyAreDrawn() {
+        CastWorks x = drawn(SHUT_IN + "hole 1 2 1 1 1 1;", 3, 3, 3);
+        due("its WAYS", x.way(0) * 10 + x.way(1), 20);
+        due("the WAY of the first PIECE", x.piece(0, 0), 2);
+        due("the WAY of the second PIECE", x.piece(1, 0), 0);
+        due("the first CELL of all is of the first WAY", x.pieceAt(-1, -1, -1), 0);
+        due("what that WAY leaves", x.piece(1, 1), 9);
     }
 
     static void promise12PieceBears1AtLeast() {
