@@ -182,6 +182,21 @@ public final class MouldEdges extends Checks {
         due("its CELLS", x.piece(0, 1), 1000);
     }
 
+    static void promise09DrawAgainFindsTheSame() {
+        String[] texts = {"", CUBE, SHUT_IN + "hole 1 2 1 1 1 1;", "box 0 0 0 1 1 1;mirror x;mirror y;mirror z;", SHUT_IN};
+        for (String text : texts) {
+            CastWorks x = formed(text, 3, 3, 3);
+            int pieces = x.draw();
+            int first = x.way(0);
+            int cells = x.piece(0, 1);
+            due("draw again", x.draw(), pieces);
+            due("draw a third time", x.draw(), pieces);
+            due("its first WAY", x.way(0), first);
+            due("the CELLS of its first PIECE", x.piece(0, 1), cells);
+            due("no PIECE more", x.piece(Math.max(0, pieces), 1), NONE);
+        }
+    }
+
     static void promise09DrawOfAllSolid() {
         CastWorks x = formed("box 0 0 0 8 8 8;", 8, 8, 8);
         due("draw", x.draw(), 2);

@@ -113,6 +113,24 @@ public final class PourEdges extends Checks {
         due("no more", x.pour(1), 0);
     }
 
+    /** A works whose DRAWING had 9 PIECES, with POURS behind them, ahead of the one of a cube. */
+    private static CastWorks drawnBehindMorePieces() {
+        CastWorks x = formed("box 0 0 0 1 1 1;mirror x;mirror y;mirror z;", 3, 3, 3);
+        due("draw", x.draw(), 9);
+        x.wear(1000, 1);
+        due("pour", x.pour(15), 15);
+        x.wear(20, 1);
+        make(x, CUBE, 1, 1, 1);
+        due("draw", x.draw(), 2);
+        return x;
+    }
+
+    static void promise14PourWithPiecesThatWereMoreBefore() {
+        CastWorks x = drawnBehindMorePieces();
+        due("nothing was poured", x.piece(0, 4) + x.piece(1, 4), 0);
+        due("pour(1000)", x.pour(1000), 15);
+    }
+
     static void promise14PourWithoutADrawing() {
         CastWorks x = new CastWorks();
         due("without a FORM", x.pour(1), NONE);
@@ -214,6 +232,12 @@ public final class PourEdges extends Checks {
         due("run(1000)", x.run(1000), 1000 * 100000);
         x.wear(1, 0);
         due("run(1000) for nothing", x.run(1000), 0);
+    }
+
+    static void promise16RunWithPiecesThatWereMoreBefore() {
+        CastWorks x = drawnBehindMorePieces();
+        due("run(31)", x.run(31), 25 + 25 + 1);
+        due("POURS", x.piece(0, 4) * 100 + x.piece(1, 4), 112);
     }
 
     static void promise16RunWithoutADrawing() {
