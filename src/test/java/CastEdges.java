@@ -4,7 +4,7 @@ public final class CastEdges extends Checks {
     }
 
     public static void main(String[] args) {
-        runTests(CastEdges.class, 23, 27);
+        runTests(CastEdges.class, args, 23, 27);
     }
 
     // ---- promise 23: cast
@@ -287,6 +287,25 @@ public final class CastEdges extends Checks {
         }
         x.cast(11, 0, 0);
         due("with the greatest one gone", x.steps(0), 10);
+    }
+
+    static void promise26StepsByMothersToOneThatHasNone() {
+        CastWorks x = new CastWorks();
+        x.cast(4, 10000, 1000);
+        x.cast(2, 9900, 950);
+        x.cast(9, 9900, 940);
+        x.cast(0, 9801, 903);
+        x.cast(7, 9702, 857);
+        x.cast(5, 5000, 500);
+        x.cast(1, 4950, 475);
+        int[][] castMotherSteps = {{4, -2, 0}, {2, 4, 1}, {9, 4, 1}, {0, 2, 2}, {7, 0, 3}, {5, -2, 0}, {1, 5, 1}};
+        for (int[] one : castMotherSteps) {
+            due("mother(" + one[0] + ")", x.mother(one[0]), one[1]);
+            due("steps(" + one[0] + ")", x.steps(one[0]), one[2]);
+        }
+        x.copies(990, 950, 0);
+        due("a MOTHER less on the way", x.steps(7), 1);
+        due("told(0)", x.told(0), 4);
     }
 
     static void promise26StepsOfNoneSuch() {

@@ -4,7 +4,7 @@ public final class MouldEdges extends Checks {
     }
 
     public static void main(String[] args) {
-        runTests(MouldEdges.class, 6, 12);
+        runTests(MouldEdges.class, args, 6, 12);
     }
 
     // ---- promise 6: solid
@@ -337,6 +337,99 @@ public final class MouldEdges extends Checks {
         due("a CELL that is shut in", x.pieceAt(1, 1, 1), NONE);
     }
 
+    private static final int[][] STEPS = {{1, 0, 0}, {-1, 0, 0}, {0, 1, 0}, {0, -1, 0}, {0, 0, 1}, {0, 0, -1}};
+
+    private static final String[] FORMS = {"", "box 0 0 0 5 5 5;", PITS, CUBE, "box 1 1 1 1 1 1;box 3 3 3 1 1 1;",
+        "box 0 0 0 5 1 2;hole 1 0 1 1 1 1;hole 3 0 1 1 1 1;", "box 0 0 0 1 1 1;mirror x;mirror y;mirror z;",
+        "box 0 0 0 5 5 1;box 2 2 1 1 1 3;box 1 1 4 3 3 1;", "box 0 0 0 5 5 5;hole 1 1 1 3 3 4;hole 2 0 2 1 5 1;"};
+
+    /** What each CELL of the box of 7 by 7 by 7 has, by z, then y, then x. */
+    private static final int ALL = 343;
+
+    private static int[] cell(int at) {
+        return new int[] {at % 7 - 1, at / 7 % 7 - 1, at / 49 - 1};
+    }
+
+    private static int[] allFree(String text) {
+        CastWorks x = formed(text, 5, 5, 5);
+        int[] all = new int[ALL];
+        for (int at = 0; at < ALL; at++) {
+            int[] cell = cell(at);
+            all[at] = x.free(cell[0], cell[1], cell[2]);
+        }
+        return all;
+    }
+
+    private static int[] allPieces(CastWorks x) {
+        int[] all = new int[ALL];
+        for (int at = 0; at < ALL; at++) {
+            int[] cell = cell(at);
+            all[at] = x.pieceAt(cell[0], cell[1], cell[2]);
+        }
+        return all;
+    }
+
+    private static int besideOf(int at, int[] step) {
+        int[] cell = cell(at);
+        for (int axis = 0; axis < 3; axis++) {
+            cell[axis] += step[axis];
+            if (cell[axis] < -1 || cell[axis] > 5) {
+                return NONE;
+            }
+        }
+        return (cell[2] + 1) * 49 + (cell[1] + 1) * 7 + cell[0] + 1;
+    }
+
+    private static int firstWayByWhichFree(int[] ways, int free) {
+        for (int way : ways) {
+            if (way != NONE && (free >> way & 1) == 1) {
+                return way;
+            }
+        }
+        return NONE;
+    }
+
+    private static int[] waysOfPieces(CastWorks x, int count) {
+        int[] ways = new int[count];
+        for (int p = 0; p < count; p++) {
+            ways[p] = x.piece(p, 0);
+        }
+        return ways;
+    }
+
+    static void promise11PieceAtIsOfTheFirstWayByWhichTheCellIsFree() {
+        for (String text : FORMS) {
+            CastWorks x = formed(text, 5, 5, 5);
+            int[] wayOf = waysOfPieces(x, x.draw());
+            int[] ways = {x.way(0), x.way(1), x.way(2), x.way(3), x.way(4), x.way(5)};
+            int[] free = allFree(text);
+            int[] pieces = allPieces(x);
+            for (int at = 0; at < ALL; at++) {
+                due("whether it has a PIECE at " + at + " of '" + text + "'", pieces[at] != NONE, free[at] != NONE);
+                if (pieces[at] != NONE) {
+                    due("its WAY at " + at + " of '" + text + "'", wayOf[pieces[at]], firstWayByWhichFree(ways, free[at]));
+                }
+            }
+        }
+    }
+
+    static void promise11PieceAtHangsTogetherBySides() {
+        for (String text : FORMS) {
+            CastWorks x = formed(text, 5, 5, 5);
+            int[] wayOf = waysOfPieces(x, x.draw());
+            int[] pieces = allPieces(x);
+            for (int at = 0; at < ALL; at++) {
+                for (int[] step : STEPS) {
+                    int other = besideOf(at, step);
+                    if (other != NONE && pieces[at] != NONE && pieces[other] != NONE) {
+                        due("whether what is beside " + at + " is of its PIECE, in '" + text + "'",
+                                pieces[at] == pieces[other], wayOf[pieces[at]] == wayOf[pieces[other]]);
+                    }
+                }
+            }
+        }
+    }
+
     static void promise11PieceAtByTheFirstCell() {
         // Eight cubes apart from one another: their far sides are PIECES of one WAY, by z, then y, then x.
         CastWorks x = formed("box 0 0 0 1 1 1;mirror x;mirror y;mirror z;", 3, 3, 3);
@@ -370,6 +463,31 @@ public final class MouldEdges extends Checks {
             due("behind the last", x.piece(count, what), NONE);
             for (int far : FAR_OFF) {
                 due("piece(" + far + ", " + what + ")", x.piece(far, what), NONE);
+            }
+        }
+    }
+
+    static void promise12PiecesHaveAllCellsOfTheMould() {
+        for (String text : FORMS) {
+            CastWorks x = formed(text, 5, 5, 5);
+            int[] cells = new int[x.draw()];
+            int[] touching = new int[cells.length];
+            int[] pieces = allPieces(x);
+            for (int at = 0; at < ALL; at++) {
+                boolean touches = false;
+                for (int[] step : STEPS) {
+                    int other = besideOf(at, step);
+                    touches |= other != NONE && pieces[other] == NONE;
+                }
+                if (pieces[at] != NONE) {
+                    cells[pieces[at]]++;
+                    touching[pieces[at]] += touches ? 1 : 0;
+                }
+            }
+            for (int p = 0; p < cells.length; p++) {
+                due("the CELLS of PIECE " + p + " of '" + text + "'", x.piece(p, 1), cells[p]);
+                due("those with a solid one at a side", x.piece(p, 2), touching[p]);
+                due("POURS that it bears", x.piece(p, 3), Math.max(1, 20 - touching[p]));
             }
         }
     }

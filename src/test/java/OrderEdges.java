@@ -4,7 +4,7 @@ public final class OrderEdges extends Checks {
     }
 
     public static void main(String[] args) {
-        runTests(OrderEdges.class, 17, 22);
+        runTests(OrderEdges.class, args, 17, 22);
     }
 
     // ---- promise 17: dry
@@ -151,6 +151,17 @@ public final class OrderEdges extends Checks {
             due("row", x.row(), 7 * one[3]);
             due("late", x.late(0), one[3]);
         }
+    }
+
+    static void promise20RowOrderByOrder() {
+        CastWorks x = new CastWorks();
+        x.order(5, 0, 1);
+        x.order(3, 0, 10);
+        x.order(2, 0, 100);
+        due("row", x.row(), 100 * (2 + 2) + 10 * (5 + 2) + 10 + 2);
+        due("first the one with most WEIGHT a POUR", x.next(0) * 100 + x.late(0), 204);
+        due("then the next one", x.next(1) * 100 + x.late(1), 107);
+        due("then the last one", x.next(2) * 100 + x.late(2), 12);
     }
 
     static void promise20RowOfTheGreatestSum() {

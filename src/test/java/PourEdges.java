@@ -4,7 +4,7 @@ public final class PourEdges extends Checks {
     }
 
     public static void main(String[] args) {
-        runTests(PourEdges.class, 13, 16);
+        runTests(PourEdges.class, args, 13, 16);
     }
 
     // ---- promise 13: wear

@@ -11,6 +11,8 @@ public final class RandomRuns {
     private static final int NONE = -1;
     private static final int RUNS = 240;
     private static final int CALLS = 512;
+    /** One step of a run makes no more: four times row() with all that next() and late() tell of it. */
+    private static final int MOST_CALLS_OF_A_STEP = 100;
     private static final int MOST_SHOWN = 20;
 
     private static int wrong = 0;
@@ -19,8 +21,11 @@ public final class RandomRuns {
     private RandomRuns() {
     }
 
+    /** With an argument only the run of that seed is made. */
     public static void main(String[] args) {
-        for (int seed = 0; seed < RUNS && wrong == 0; seed++) {
+        int first = args.length > 0 ? Integer.parseInt(args[0]) : 0;
+        int last = args.length > 0 ? first : RUNS - 1;
+        for (int seed = first; seed <= last && wrong == 0; seed++) {
             new Run(seed).go();
         }
         System.out.println(checks + " answers to random calls, " + wrong + " of them wrong");
@@ -45,7 +50,7 @@ public final class RandomRuns {
         }
 
         void go() {
-            while (calls.size() < CALLS - 60 && wrong == 0) {
+            while (calls.size() <= CALLS - MOST_CALLS_OF_A_STEP && wrong == 0) {
                 switch (random.nextInt(6)) {
                     case 0:
                         newForm();

@@ -4,7 +4,7 @@ public final class TextEdges extends Checks {
     }
 
     public static void main(String[] args) {
-        runTests(TextEdges.class, 1, 5);
+        runTests(TextEdges.class, args, 1, 5);
     }
 
     private static boolean isBlank(int value) {
@@ -107,6 +107,40 @@ public final class TextEdges extends Checks {
         }
         due("the 511th call", x.row(), 100 * (50 * 55 + 2 * 10));
         due("the 512th call", x.late(9), 502);
+    }
+
+    static void promise01CallsOfEveryKindUpToThe512th() {
+        CastWorks x = new CastWorks();
+        for (int call = 1; call <= 485; call++) {
+            due("feed", x.feed(0, 0, 0, 0, 0), call <= 20 ? 20 * call : NONE);
+        }
+        due("call 486", x.end(0), true);
+        due("call 487", feed(x, CUBE, 0), 20);
+        due("call 488", x.end(16), true);
+        due("call 489", x.form(1, 1, 1), 1);
+        due("call 490", x.fault(1), NONE);
+        due("call 491", x.solid(0, 0, 0), 1);
+        due("call 492", x.free(1, 0, 0), 61);
+        due("call 493", x.shut(), 0);
+        due("call 494", x.draw(), 2);
+        due("call 495", x.way(1), 1);
+        due("call 496", x.pieceAt(-1, 0, 0), 1);
+        due("call 497", x.piece(0, 3), 15);
+        due("call 498", x.wear(10, 2), true);
+        due("call 499", x.pour(9), 5);
+        due("call 500", x.mend(1), 2);
+        due("call 501", x.run(1), 50);
+        due("call 502", x.dry(0), 2);
+        due("call 503", x.order(5, 3, 4), 0);
+        due("call 504", x.row(), 8);
+        due("call 505", x.next(0), 0);
+        due("call 506", x.late(0), 2);
+        due("call 507", x.cancel(0), true);
+        due("call 508", x.cast(11, 1000, 0), true);
+        due("call 509", x.copies(1000, 1000, 0), true);
+        due("call 510", x.mother(11), -2);
+        due("call 511", x.steps(11), 0);
+        due("call 512", x.told(0), 1);
     }
 
     // ---- promise 2: feed
@@ -301,6 +335,39 @@ public final class TextEdges extends Checks {
         due("solid", x.solid(0, 0, 0), 0);
         due("the same form again", make(x, CUBE, 1, 1, 1), 1);
         due("way", x.way(0), NONE);
+    }
+
+    private static final String[] PARTS = {"box", "0", "0", "0", "2", "1", "1", ";", "hole", "0", "0", "0", "1", "1", "1",
+        ";", "mirror", "x", ";", "turn", ";"};
+
+    /** The text of all parts with one blank wherever it is needed, but for one gap: that is filled as is said. */
+    private static String textWithGap(int gap, String filling) {
+        StringBuilder text = new StringBuilder();
+        for (int i = 0; i <= PARTS.length; i++) {
+            text.append(i == gap ? filling : needsBlank(i) ? " " : "");
+            text.append(i < PARTS.length ? PARTS[i] : "");
+        }
+        return text.toString();
+    }
+
+    private static boolean needsBlank(int gap) {
+        return gap > 0 && gap < PARTS.length && !PARTS[gap - 1].equals(";") && !PARTS[gap].equals(";");
+    }
+
+    private static int placeOfGap(int gap) {
+        String marked = textWithGap(gap, "#");
+        return marked.indexOf('#');
+    }
+
+    static void promise04FormWithBlanksWhereOneLikes() {
+        for (int gap = 0; gap <= PARTS.length; gap++) {
+            for (String blanks : new String[] {" ", "\n", "  ", "\n\n", " \n \n"}) {
+                soundDue(textWithGap(gap, blanks), 2, 2, 2, 2);
+            }
+            for (char other : new char[] {0, 9, 11, 13, 31, 33, 160, 255}) {
+                faultDue(textWithGap(gap, " " + other), 2, 2, 1, placeOfGap(gap) + 1);
+            }
+        }
     }
 
     static void promise04FormOfAnEmptyText() {
@@ -530,6 +597,19 @@ public final class TextEdges extends Checks {
         faultDue("turn0;", 2, 2, 1, 4);
         soundDue("turn;turn;box 0 0 0 1 1 1;hole 0 0 0 1 1 1;mirror x;mirror y;turn;", 2, 2, 2, 0);
         soundDue("\n \nbox\n0\n0 \n 0\n1\n1\n1\n;\n\nturn\n;\nmirror\nz\n;\n", 2, 2, 2, 2);
+    }
+
+    static void promise05FaultWithoutABlankInAnyGap() {
+        for (int gap = 0; gap <= PARTS.length; gap++) {
+            String text = textWithGap(gap, "");
+            if (!needsBlank(gap)) {
+                soundDue(text, 2, 2, 2, 2);
+            } else if (isLetter(PARTS[gap].charAt(0))) {
+                faultDue(text, 2, 2, 1, placeOfGap(gap) - PARTS[gap - 1].length());
+            } else {
+                faultDue(text, 2, 2, 1, placeOfGap(gap));
+            }
+        }
     }
 
     static void promise05FaultOfASecondDigitAtItself() {

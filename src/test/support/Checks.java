@@ -19,18 +19,24 @@ abstract class Checks {
     private static int checks = 0;
     private static int wrong = 0;
 
-    /** Runs every method whose name is "promise", two digits and more, and asks that each promise has one at least. */
-    static void runTests(Class<?> owner, int firstPromise, int lastPromise) {
+    /**
+     * Runs every method whose name is "promise", two digits and more, and asks that each promise has one at least;
+     * with an argument only those whose names begin with it.
+     */
+    static void runTests(Class<?> owner, String[] args, int firstPromise, int lastPromise) {
+        String wanted = args.length > 0 ? args[0] : "";
         TreeMap<String, Method> tests = new TreeMap<>();
         for (Method method : owner.getDeclaredMethods()) {
-            if (method.getName().matches("promise\\d\\d.+")) {
+            if (method.getName().matches("promise\\d\\d.+") && method.getName().startsWith(wanted)) {
                 tests.put(method.getName(), method);
             }
         }
         for (Method method : tests.values()) {
             run(method);
         }
-        for (int promise = firstPromise; promise <= lastPromise; promise++) {
+        begin(owner.getSimpleName());
+        due("whether there are tests named " + wanted, tests.isEmpty(), false);
+        for (int promise = firstPromise; promise <= lastPromise && wanted.isEmpty(); promise++) {
             String name = String.format("promise%02d", promise);
             begin(name);
             String first = tests.ceilingKey(name);
