@@ -97,6 +97,10 @@ public final class CastEdges extends Checks {
         x.cast(0, 1000, 1000);
         x.cast(1, 990, 950);
         due("its mother", x.mother(1), 0);
+        due("found anew with another DETAIL", x.cast(1, 990, 900), true);
+        due("its QUARREL", x.told(1), 50);
+        due("found anew with another SIZE", x.cast(1, 980, 950), true);
+        due("its QUARREL", x.told(1), 10);
         due("found anew", x.cast(1, 500, 0), true);
         due("no mother", x.mother(1), -2);
         due("two were found", x.told(0), 2);

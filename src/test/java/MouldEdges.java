@@ -533,6 +533,22 @@ public final class MouldEdges extends Checks {
         due("what that WAY leaves", x.piece(1, 1), 9);
     }
 
+    static void promise12PieceTellsPoursThatItBearsAndThoseBehindItApart() {
+        CastWorks x = drawn(CUBE, 1, 1, 1);
+        int[] behind = {0, 7, 15};
+        for (int i = 0; i < behind.length; i++) {
+            due("pour", i == 0 ? 0 : x.pour(behind[i] - behind[i - 1]), i == 0 ? 0 : behind[i] - behind[i - 1]);
+            due("POURS that PIECE 0 bears", x.piece(0, 3), 15);
+            due("POURS that PIECE 1 bears", x.piece(1, 3), 19);
+            due("POURS behind PIECE 0", x.piece(0, 4), behind[i]);
+            due("POURS behind PIECE 1", x.piece(1, 4), behind[i]);
+        }
+        x.mend(0);
+        due("POURS that a mended one bears", x.piece(0, 3), 15);
+        due("POURS behind a mended one", x.piece(0, 4), 0);
+        due("POURS behind the other one", x.piece(1, 4), 15);
+    }
+
     static void promise12PieceBears1AtLeast() {
         CastWorks x = drawn(CUBE, 1, 1, 1);
         int[][] lifeAndBorne = {{1, 1}, {4, 1}, {5, 1}, {6, 1}, {7, 2}, {8, 3}, {1000, 995}};

@@ -178,7 +178,8 @@ public final class TextEdges extends Checks {
     }
 
     static void promise02FeedOfEveryByteInItsPlace() {
-        int[] values = {0, 9, 11, 31, 33, 127, 128, 255};
+        // With their highest bit lost the last two would be blanks.
+        int[] values = {0, 9, 11, 31, 33, 127, 128, 255, 138, 160};
         for (int place = 0; place < 20; place++) {
             CastWorks x = new CastWorks();
             for (int value : values) {
