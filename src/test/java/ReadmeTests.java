@@ -90,7 +90,8 @@ public final class ReadmeTests {
         int compiled = run(output, "javac", "-d", folder.toString(), "src/main/java/CastWorks.java", file.toString());
         must("its lines of Java are compiled: " + output, compiled == 0);
         output.clear();
-        must("its lines of Java are run", compiled == 0 && run(output, "java", "-cp", folder.toString(), "ReadmeUse") == 0);
+        int code = run(output, "java", "-cp", folder.toString(), "ReadmeUse");
+        must("its lines of Java are run: " + output, code == 0);
         for (File left : folder.toFile().listFiles()) {
             Files.delete(left.toPath());
         }
@@ -113,7 +114,7 @@ public final class ReadmeTests {
                 must("a command that is known: " + command, known);
                 if (known && command.contains(" ")) {
                     List<String> output = new ArrayList<>();
-                    int code = run(output, command.split(" "));
+                    int code = run(output, ("bash " + command).split(" "));
                     must(command + " ends with " + code + ": " + output, code == 0);
                 }
             }
